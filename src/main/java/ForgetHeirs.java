@@ -16,11 +16,12 @@ public final class ForgetHeirs {
     private static final int MOST_IMAGES = 4;
     private static final int LAST_YEAR = 999;
     private static final int FAR = 200;
+    private static final int NEVER = 1000000;
     private static final int TWOS_OF_HEIRS = MANY * (MANY - 1) / 2;
 
-    private final Tape tape = new Tape();
-    private final HouseReader houseReader = new HouseReader(tape);
-    private final RuleReader ruleReader = new RuleReader(tape);
+    private final Tape tape;
+    private final HouseReader houseReader;
+    private final RuleReader ruleReader;
     private final Rule[] rules = new Rule[MOST_RULES];
     private final Years years = new Years();
     private final State now = new State();
@@ -35,6 +36,10 @@ public final class ForgetHeirs {
     private int x = 0;
 
     public ForgetHeirs() {
+        Tape shared = new Tape();
+        tape = shared;
+        houseReader = new HouseReader(shared);
+        ruleReader = new RuleReader(shared);
         for (int k = 0; k < MOST_IMAGES; k++) {
             images[k] = new Image();
         }
@@ -842,7 +847,7 @@ public final class ForgetHeirs {
         }
 
         int lasts(int thing) {
-            return struck[thing] == NONE ? Integer.MAX_VALUE : struck[thing];
+            return struck[thing] == NONE ? NEVER : struck[thing];
         }
     }
 
@@ -1022,6 +1027,7 @@ public final class ForgetHeirs {
         private static final String WORDS =
             "heir thing as right strength age hates song burnt loss field year same known house cousins knows fade if not and or ";
         private static final int MOST_DIGITS = 5;
+        private static final int TOO_MUCH = 1000000;
 
         private final byte[] bytes = new byte[ROOM];
         private final int[] kinds = new int[ROOM + 1];
@@ -1090,7 +1096,7 @@ public final class ForgetHeirs {
         /** Of more digits than it may have: more than any NUMBER may be. */
         private int valueOf(int from, int to) {
             if (to - from > MOST_DIGITS) {
-                return Integer.MAX_VALUE;
+                return TOO_MUCH;
             }
             int value = 0;
             for (int i = from; i < to; i++) {

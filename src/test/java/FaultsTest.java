@@ -53,6 +53,8 @@ final class FaultsTest {
         noHouse("house 1;^;", 0);
         noHouse("^houses 1", 0);
         noHouse("^hous 1", 0);
+        noHouse("^housez 1", 0);
+        noHouse("^ahouse 1", 0);
         noHouse("^House 1", 0);
         noHouse("^5 1", 0);
         noHouse("house 1^\t", 0);

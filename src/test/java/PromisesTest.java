@@ -314,6 +314,8 @@ final class PromisesTest {
             due("fade 5 if " + tests[i], lossBy("fade 5 if " + tests[i]), holds[i] == 1 ? 5 : 0);
         }
         due("the first that holds", lossBy("fade 1 if 1 = 2;fade 2 if 1 = 1;fade 3;fade 4"), 2);
+        due("the twelfth", lossBy("fade 1 if 1=2;".repeat(11) + "fade 7 if 2=2"), 7);
+        due("none of twelve", lossBy("fade 1 if 1=2;".repeat(12).substring(0, 167)), 0);
         due("the first without a TEST", lossBy("fade 1;fade 2 if 1 = 1"), 1);
     }
 
@@ -697,6 +699,9 @@ final class PromisesTest {
         due("of several the least", x.likeliest(0, 0), 0);
         due("nobody", x.likeliest(1, 0), -2);
         due("nobody", x.likeliest(1, 1), -2);
+        x = Due.with("house 1;thing 1 1 1;thing 1 1 1;heir 0 0;heir 0 0;knows 0 0 9 7;knows 1 0 8 6;knows 1 1 0 1");
+        due("as the highest", x.likeliest(0, 0), 9);
+        due("of the least STRENGTH", x.likeliest(1, 1), 1);
     }
 
     // Promise 24.
@@ -817,7 +822,8 @@ final class PromisesTest {
         due("no HEIRS", Due.with("house 1;thing 1 1 1").drawn(3, 1, 0), 0);
         due("seed", x.seed(12345), 0);
         due("seed below 0", x.seed(-1), NONE);
-        due("seed", x.seed(2147483647), 12345);
+        due("seed 0", x.seed(0), 12345);
+        due("seed", x.seed(2147483647), 0);
         due("x", x.count(10), 2147483647);
         // From 12345 the first DRAW is 21468: DRINK 68 is not above it.
         x = Due.with("house 1;thing 1 0 5;heir 0 68;knows 0 0 1 50");
