@@ -21,6 +21,13 @@ final class Due {
         due(call, got ? 1 : 0, want ? 1 : 0);
     }
 
+    /** What count answers, from 0 on. */
+    static void counts(String when, ForgetHeirs x, int... counts) {
+        for (int what = 0; what < counts.length; what++) {
+            due("count " + what + " " + when, x.count(what), counts[what]);
+        }
+    }
+
     static int wrongs() {
         return wrong;
     }

@@ -15,200 +15,180 @@ final class FaultsTest {
         Due.end("FaultsTest");
     }
 
-    private static void isHouse(String text, int heirs) {
-        Due.due("house " + text, Due.house(new ForgetHeirs(), text), heirs);
-    }
-
-    private static void isRule(String text) {
-        Due.due("rule " + text, Due.rule(new ForgetHeirs(), text), 0);
-    }
-
-    private static void noHouse(String marked, int what) {
-        int place = marked.indexOf('^');
-        String text = marked.substring(0, place) + marked.substring(place + 1);
-        Due.due("house " + marked, Due.house(new ForgetHeirs(), text), Due.fault(place, what));
-    }
-
-    private static void noRule(String marked, int what) {
-        int place = marked.indexOf('^');
-        String text = marked.substring(0, place) + marked.substring(place + 1);
-        Due.due("rule " + marked, Due.rule(new ForgetHeirs(), text), Due.fault(place, what));
-    }
-
     private static void goodHouses() {
-        isHouse("house 1", 0);
-        isHouse("house 20", 0);
-        isHouse("  house   00020  ", 0);
-        isHouse("house1;heir0 0;heir 99 100", 2);
-        isHouse("house 1;thing 9 20 99;song 0;song 0;heir 0 0;hates 0;hates 0;knows 0 0 9 99;knows 0 0 0 1", 1);
-        isHouse("house 1 ; heir 1 1 ; heir 1 1 ; cousins 1 0", 2);
+        Told.isHouse("house 1", 0);
+        Told.isHouse("house 20", 0);
+        Told.isHouse("  house   00020  ", 0);
+        Told.isHouse("house1;heir0 0;heir 99 100", 2);
+        Told.isHouse("house 1;thing 9 20 99;song 0;song 0;heir 0 0;hates 0;hates 0;knows 0 0 9 99;knows 0 0 0 1", 1);
+        Told.isHouse("house 1 ; heir 1 1 ; heir 1 1 ; cousins 1 0", 2);
     }
 
     private static void faultyHouses() {
-        noHouse("^", 0);
-        noHouse("   ^", 0);
-        noHouse("house^", 0);
-        noHouse("house ^", 0);
-        noHouse("house 1;^", 0);
-        noHouse("house 1;^;", 0);
-        noHouse("^houses 1", 0);
-        noHouse("^hous 1", 0);
-        noHouse("^housez 1", 0);
-        noHouse("^ahouse 1", 0);
-        noHouse("^House 1", 0);
-        noHouse("^5 1", 0);
-        noHouse("house 1^\t", 0);
-        noHouse("house 1 ^1", 0);
-        noHouse("house 1^house", 0);
-        noHouse("house 1^<=", 0);
-        noHouse("house ^-1", 0);
-        noHouse("house ^0", 1);
-        noHouse("house ^21", 1);
-        noHouse("house ^000001", 1);
-        noHouse("house ^123456", 1);
-        noHouse("^thing 0 0 0", 4);
-        noHouse("^knows", 4);
-        noHouse("^year", 0);
-        noHouse("house 1;^fade 1", 0);
-        noHouse("house 1;^house 1", 4);
-        noHouse("house 1;thing ^10 0 0", 1);
-        noHouse("house 1;thing 0 ^21 0", 1);
-        noHouse("house 1;thing 0 0 ^100", 1);
-        noHouse("house 1;thing 0 0^;", 0);
-        noHouse("house 1;song ^0", 1);
-        noHouse("house 1;thing 0 0 0;song ^1", 1);
-        noHouse("house 1;heir ^100 0", 1);
-        noHouse("house 1;heir 0 ^101", 1);
-        noHouse("house 1;hates ^0", 1);
-        noHouse("house 1;heir 0 0;hates ^1", 1);
-        noHouse("house 1;heir 0 0;cousins 0 ^0", 1);
-        noHouse("house 1;heir 0 0;cousins 0 ^1", 1);
-        noHouse("house 1;heir 0 0;cousins ^1 0", 1);
-        noHouse("house 1;heir 0 0;heir 0 0;cousins 0 1;cousins 1 ^0", 1);
-        noHouse("house 1;heir 0 0;heir 0 0;cousins 0 1;cousins 0 ^1", 1);
-        noHouse("house 1;heir 0 0;knows 0 ^0 0 1", 1);
-        noHouse("house 1;thing 0 0 0;knows ^0 0 0 1", 1);
-        noHouse("house 1;thing 0 0 0;heir 0 0;knows 0 0 ^10 1", 1);
-        noHouse("house 1;thing 0 0 0;heir 0 0;knows 0 0 0 ^0", 1);
-        noHouse("house 1;thing 0 0 0;heir 0 0;knows 0 0 0 ^100", 1);
-        noHouse("house 1;^" + (char) 200, 0);
-        noHouse("house 1^" + (char) 0, 0);
+        Told.noHouse("^", 0);
+        Told.noHouse("   ^", 0);
+        Told.noHouse("house^", 0);
+        Told.noHouse("house ^", 0);
+        Told.noHouse("house 1;^", 0);
+        Told.noHouse("house 1;^;", 0);
+        Told.noHouse("^houses 1", 0);
+        Told.noHouse("^hous 1", 0);
+        Told.noHouse("^housez 1", 0);
+        Told.noHouse("^ahouse 1", 0);
+        Told.noHouse("^House 1", 0);
+        Told.noHouse("^5 1", 0);
+        Told.noHouse("house 1^\t", 0);
+        Told.noHouse("house 1 ^1", 0);
+        Told.noHouse("house 1^house", 0);
+        Told.noHouse("house 1^<=", 0);
+        Told.noHouse("house ^-1", 0);
+        Told.noHouse("house ^0", 1);
+        Told.noHouse("house ^21", 1);
+        Told.noHouse("house ^000001", 1);
+        Told.noHouse("house ^123456", 1);
+        Told.noHouse("^thing 0 0 0", 4);
+        Told.noHouse("^knows", 4);
+        Told.noHouse("^year", 0);
+        Told.noHouse("house 1;^fade 1", 0);
+        Told.noHouse("house 1;^house 1", 4);
+        Told.noHouse("house 1;thing ^10 0 0", 1);
+        Told.noHouse("house 1;thing 0 ^21 0", 1);
+        Told.noHouse("house 1;thing 0 0 ^100", 1);
+        Told.noHouse("house 1;thing 0 0^;", 0);
+        Told.noHouse("house 1;song ^0", 1);
+        Told.noHouse("house 1;thing 0 0 0;song ^1", 1);
+        Told.noHouse("house 1;heir ^100 0", 1);
+        Told.noHouse("house 1;heir 0 ^101", 1);
+        Told.noHouse("house 1;hates ^0", 1);
+        Told.noHouse("house 1;heir 0 0;hates ^1", 1);
+        Told.noHouse("house 1;heir 0 0;cousins 0 ^0", 1);
+        Told.noHouse("house 1;heir 0 0;cousins 0 ^1", 1);
+        Told.noHouse("house 1;heir 0 0;cousins ^1 0", 1);
+        Told.noHouse("house 1;heir 0 0;heir 0 0;cousins 0 1;cousins 1 ^0", 1);
+        Told.noHouse("house 1;heir 0 0;heir 0 0;cousins 0 1;cousins 0 ^1", 1);
+        Told.noHouse("house 1;heir 0 0;knows 0 ^0 0 1", 1);
+        Told.noHouse("house 1;thing 0 0 0;knows ^0 0 0 1", 1);
+        Told.noHouse("house 1;thing 0 0 0;heir 0 0;knows 0 0 ^10 1", 1);
+        Told.noHouse("house 1;thing 0 0 0;heir 0 0;knows 0 0 0 ^0", 1);
+        Told.noHouse("house 1;thing 0 0 0;heir 0 0;knows 0 0 0 ^100", 1);
+        Told.noHouse("house 1;^" + (char) 200, 0);
+        Told.noHouse("house 1^" + (char) 0, 0);
     }
 
     private static void housesTooLong() {
         String things = "house 1" + ";thing 0 0 0".repeat(7);
-        isHouse(things, 0);
-        noHouse(things + ";^thing 0 0 0", 4);
+        Told.isHouse(things, 0);
+        Told.noHouse(things + ";^thing 0 0 0", 4);
         String heirs = "house 1" + ";heir 0 0".repeat(7);
-        isHouse(heirs, 7);
-        noHouse(heirs + ";  ^heir x", 4);
+        Told.isHouse(heirs, 7);
+        Told.noHouse(heirs + ";  ^heir x", 4);
         StringBuilder cousins = new StringBuilder(heirs);
         for (int i = 1; i < 7; i++) {
             cousins.append(";cousins 0 ").append(i);
         }
         cousins.append(";cousins 1 2;cousins 1 3;cousins 1 4;cousins 1 5");
-        isHouse(cousins.toString(), 7);
-        noHouse(cousins + ";^cousins 1 6", 4);
+        Told.isHouse(cousins.toString(), 7);
+        Told.noHouse(cousins + ";^cousins 1 6", 4);
         String forty = "house 1;thing 0 0 0" + ";song 0".repeat(38);
-        isHouse(forty, 0);
-        noHouse(forty + ";^song 0", 4);
-        noHouse(forty + ";^song", 4);
-        noHouse(forty + ";^sing 0", 0);
-        noHouse(forty + ";^", 0);
-        noHouse(forty + "^:", 0);
+        Told.isHouse(forty, 0);
+        Told.noHouse(forty + ";^song 0", 4);
+        Told.noHouse(forty + ";^song", 4);
+        Told.noHouse(forty + ";^sing 0", 0);
+        Told.noHouse(forty + ";^", 0);
+        Told.noHouse(forty + "^:", 0);
     }
 
     private static void goodRules() {
-        isRule("fade 1");
-        isRule(" fade0%0 ");
-        isRule("fade 99999;fade as if not 1=1;fade 00000");
-        isRule("fade heir+thing-as*right/strength%age+hates if song<burnt and loss<=field or year=same and known>=1");
-        isRule("fade 1 if[1>0]and[not[not 1<=0]or 2>=1]");
-        isRule("fade 1 if 1 < 2 or 1 > 2 and not not 1 = 2");
+        Told.isRule("fade 1");
+        Told.isRule(" fade0%0 ");
+        Told.isRule("fade 99999;fade as if not 1=1;fade 00000");
+        Told.isRule("fade heir+thing-as*right/strength%age+hates if song<burnt and loss<=field or year=same and known>=1");
+        Told.isRule("fade 1 if[1>0]and[not[not 1<=0]or 2>=1]");
+        Told.isRule("fade 1 if 1 < 2 or 1 > 2 and not not 1 = 2");
     }
 
     private static void faultyRules() {
-        noRule("^", 0);
-        noRule("fade^", 0);
-        noRule("^fades 1", 0);
-        noRule("^house 1", 0);
-        noRule("fade ^if", 0);
-        noRule("fade ^x", 0);
-        noRule("fade ^rights", 0);
-        noRule("fade ^-1", 0);
-        noRule("fade ^[1]", 0);
-        noRule("fade ^not 1", 0);
-        noRule("fade ^100000", 1);
-        noRule("fade 5 %^", 0);
-        noRule("fade 5 + ^+ 1", 0);
-        noRule("fade 5 ^5", 0);
-        noRule("fade 5 ^= 5", 0);
-        noRule("fade 5 ^and 5", 0);
-        noRule("fade 1;^", 0);
-        noRule("fade 1 if^", 0);
-        noRule("fade 1 if 1^", 0);
-        noRule("fade 1 if 1 ^if", 0);
-        noRule("fade 1 if 1 <^", 0);
-        noRule("fade 1 if 1 < ^= 1", 0);
-        noRule("fade 1 if 1 =^< 1", 0);
-        noRule("fade 1 if 1 =^= 1", 0);
-        noRule("fade 1 if 1 <^> 1", 0);
-        noRule("fade 1 if 1 ^! 1", 0);
-        noRule("fade 1 if 1 = 1 ^= 1", 0);
-        noRule("fade 1 if 1 = 1 and^", 0);
-        noRule("fade 1 if 1 = 1 or ^;", 0);
-        noRule("fade 1 if 1 = 1 ^not", 0);
-        noRule("fade 1 if year = 1^]", 0);
-        noRule("fade 1 if [year = 1^", 0);
-        noRule("fade 1 if [year = 1^;", 0);
-        noRule("fade 1 if [1 ^] = 1", 0);
-        noRule("fade 1 if ^] = 1", 0);
-        noRule("fade 1 if not^", 0);
-        noRule("fade 1 if 1 = ^not 1", 0);
-        noRule("fade 1 if 1 = 1 ^if 1 = 1", 0);
-        noRule("fade 1 if 1 = 1 ^fade 1", 0);
-        noRule("fade 1 if 1 = ^123456", 1);
+        Told.noRule("^", 0);
+        Told.noRule("fade^", 0);
+        Told.noRule("^fades 1", 0);
+        Told.noRule("^house 1", 0);
+        Told.noRule("fade ^if", 0);
+        Told.noRule("fade ^x", 0);
+        Told.noRule("fade ^rights", 0);
+        Told.noRule("fade ^-1", 0);
+        Told.noRule("fade ^[1]", 0);
+        Told.noRule("fade ^not 1", 0);
+        Told.noRule("fade ^100000", 1);
+        Told.noRule("fade 5 %^", 0);
+        Told.noRule("fade 5 + ^+ 1", 0);
+        Told.noRule("fade 5 ^5", 0);
+        Told.noRule("fade 5 ^= 5", 0);
+        Told.noRule("fade 5 ^and 5", 0);
+        Told.noRule("fade 1;^", 0);
+        Told.noRule("fade 1 if^", 0);
+        Told.noRule("fade 1 if 1^", 0);
+        Told.noRule("fade 1 if 1 ^if", 0);
+        Told.noRule("fade 1 if 1 <^", 0);
+        Told.noRule("fade 1 if 1 < ^= 1", 0);
+        Told.noRule("fade 1 if 1 =^< 1", 0);
+        Told.noRule("fade 1 if 1 =^= 1", 0);
+        Told.noRule("fade 1 if 1 <^> 1", 0);
+        Told.noRule("fade 1 if 1 ^! 1", 0);
+        Told.noRule("fade 1 if 1 = 1 ^= 1", 0);
+        Told.noRule("fade 1 if 1 = 1 and^", 0);
+        Told.noRule("fade 1 if 1 = 1 or ^;", 0);
+        Told.noRule("fade 1 if 1 = 1 ^not", 0);
+        Told.noRule("fade 1 if year = 1^]", 0);
+        Told.noRule("fade 1 if [year = 1^", 0);
+        Told.noRule("fade 1 if [year = 1^;", 0);
+        Told.noRule("fade 1 if [1 ^] = 1", 0);
+        Told.noRule("fade 1 if ^] = 1", 0);
+        Told.noRule("fade 1 if not^", 0);
+        Told.noRule("fade 1 if 1 = ^not 1", 0);
+        Told.noRule("fade 1 if 1 = 1 ^if 1 = 1", 0);
+        Told.noRule("fade 1 if 1 = 1 ^fade 1", 0);
+        Told.noRule("fade 1 if 1 = ^123456", 1);
     }
 
     private static void rulesTooDeep() {
         String[] opens = {"[", "not "};
         for (String open : opens) {
             String close = open.equals("[") ? "]" : "";
-            isRule("fade 1 if " + open.repeat(10) + "1 = 1" + close.repeat(10));
-            noRule("fade 1 if " + open.repeat(10) + "^" + open + "1 = 1" + close.repeat(11), 2);
+            Told.isRule("fade 1 if " + open.repeat(10) + "1 = 1" + close.repeat(10));
+            Told.noRule("fade 1 if " + open.repeat(10) + "^" + open + "1 = 1" + close.repeat(11), 2);
         }
-        isRule("fade 1 if " + "[not ".repeat(5) + "1 = 1" + "]".repeat(5));
-        noRule("fade 1 if " + "[not ".repeat(5) + "^not 1 = 1" + "]".repeat(5), 2);
-        noRule("fade 1 if " + "not [".repeat(5) + "^[1 = 1]", 2);
+        Told.isRule("fade 1 if " + "[not ".repeat(5) + "1 = 1" + "]".repeat(5));
+        Told.noRule("fade 1 if " + "[not ".repeat(5) + "^not 1 = 1" + "]".repeat(5), 2);
+        Told.noRule("fade 1 if " + "not [".repeat(5) + "^[1 = 1]", 2);
         // What closes is deep no more.
-        isRule("fade 1 if " + "[".repeat(9) + "[1=1] and [1=1] or not 1=1" + "]".repeat(9) + " and not [1=1]");
+        Told.isRule("fade 1 if " + "[".repeat(9) + "[1=1] and [1=1] or not 1=1" + "]".repeat(9) + " and not [1=1]");
     }
 
     private static void rulesTooLong() {
         String twelve = "fade 1" + ";fade 1".repeat(11);
-        isRule(twelve);
-        noRule(twelve + "; ^fade 1", 4);
-        noRule(twelve + ";^fade", 4);
-        noRule(twelve + ";^fad 1", 0);
-        noRule(twelve + ";^", 0);
+        Told.isRule(twelve);
+        Told.noRule(twelve + "; ^fade 1", 4);
+        Told.noRule(twelve + ";^fade", 4);
+        Told.noRule(twelve + ";^fad 1", 0);
+        Told.noRule(twelve + ";^", 0);
         String sixty = "fade 1" + "+1".repeat(59);
-        isRule(sixty);
-        noRule(sixty + "+^1", 3);
-        noRule(sixty + "+^year", 3);
-        noRule(sixty + "+^yea", 0);
-        noRule(sixty + "+^123456", 1);
-        noRule(sixty + "+^", 0);
-        noRule(sixty + ";fade ^1", 3);
-        noRule(sixty + " if ^1 = 1", 3);
+        Told.isRule(sixty);
+        Told.noRule(sixty + "+^1", 3);
+        Told.noRule(sixty + "+^year", 3);
+        Told.noRule(sixty + "+^yea", 0);
+        Told.noRule(sixty + "+^123456", 1);
+        Told.noRule(sixty + "+^", 0);
+        Told.noRule(sixty + ";fade ^1", 3);
+        Told.noRule(sixty + " if ^1 = 1", 3);
         // 58 VALUES, a FACT's first one, its SIGN, and its second one.
         String most = "fade 1" + "+1".repeat(57);
-        noRule(most + " if 1 = ^1", 3);
-        isRule("fade 1" + "+1".repeat(56) + " if 1 = 1");
-        noRule("fade 1" + "+1".repeat(58) + " if 1 ^= 1", 3);
-        noRule("fade 1" + "+1".repeat(58) + " if 1 ^! 1", 0);
-        noRule("fade 1" + "+1".repeat(58) + " if 1 ^<= x", 3);
-        isRule("fade 1 if " + "1=1 or ".repeat(17) + "1=1 and 1+1<1+1");
-        noRule("fade 1 if " + "1=1 or ".repeat(17) + "1=1 and 1+1<1+1+^1", 3);
+        Told.noRule(most + " if 1 = ^1", 3);
+        Told.isRule("fade 1" + "+1".repeat(56) + " if 1 = 1");
+        Told.noRule("fade 1" + "+1".repeat(58) + " if 1 ^= 1", 3);
+        Told.noRule("fade 1" + "+1".repeat(58) + " if 1 ^! 1", 0);
+        Told.noRule("fade 1" + "+1".repeat(58) + " if 1 ^<= x", 3);
+        Told.isRule("fade 1 if " + "1=1 or ".repeat(17) + "1=1 and 1+1<1+1");
+        Told.noRule("fade 1 if " + "1=1 or ".repeat(17) + "1=1 and 1+1<1+1+^1", 3);
     }
 
     private static void afterFaults() {
